@@ -1,0 +1,51 @@
+import java.lang.reflect.Constructor;
+import java.lang.reflect.Field;
+import java.lang.reflect.Method;
+import java.lang.reflect.Modifier;
+import java.util.Set;
+import java.util.TreeSet;
+
+/** The public face: what the document lists, and nothing else that is not private. */
+public final class FaceTest {
+    public static void main(String[] args) {
+        int modifiers = PartsDesk.class.getModifiers();
+        Check.due("public", true, () -> Modifier.isPublic(modifiers));
+        Check.due("final", true, () -> Modifier.isFinal(modifiers));
+        Set<String> due = new TreeSet<>(Set.of("PartsDesk()", "boolean write(char)", "int numerator()", "int denominator()",
+            "long coefficient(int, int)", "int many(int)", "long part(int, int, int)", "long integral(int, int, int)",
+            "long value(int, int)", "double at(double)", "double byParts(double)"));
+        Check.due("the face", due, FaceTest::face);
+        for (Field field : PartsDesk.class.getDeclaredFields()) {
+            Check.due(field.getName() + " is private", true, () -> Modifier.isPrivate(field.getModifiers()));
+            boolean isFree = !Modifier.isStatic(field.getModifiers()) || Modifier.isFinal(field.getModifiers());
+            Check.due(field.getName() + " is final if static", true, () -> isFree);
+        }
+        for (Class<?> inside : PartsDesk.class.getDeclaredClasses()) {
+            Check.due(inside.getName() + " is static", true, () -> Modifier.isStatic(inside.getModifiers()));
+        }
+        Check.end();
+    }
+
+    private static Set<String> face() {
+        Set<String> face = new TreeSet<>();
+        for (Constructor<?> constructor : PartsDesk.class.getDeclaredConstructors()) {
+            if (!Modifier.isPrivate(constructor.getModifiers())) {
+                face.add("PartsDesk(" + parameters(constructor.getParameterTypes()) + ")");
+            }
+        }
+        for (Method method : PartsDesk.class.getDeclaredMethods()) {
+            if (!Modifier.isPrivate(method.getModifiers())) {
+                face.add(method.getReturnType() + " " + method.getName() + "(" + parameters(method.getParameterTypes()) + ")");
+            }
+        }
+        return face;
+    }
+
+    private static String parameters(Class<?>[] types) {
+        StringBuilder text = new StringBuilder();
+        for (Class<?> type : types) {
+            text.append(text.length() == 0 ? "" : ", ").append(type);
+        }
+        return text.toString();
+    }
+}
