@@ -94,7 +94,8 @@ public final class ReadingTest {
 
     private static void wrongNumerators() {
         String[] texts = {"+", "-", "--x", "+-1", "x+", "1-", "123", "x^", "x^7", "x^66", "x^-1", "2^3", "12^3x",
-            "xx", "x2", "2 x", " x", "x ", "X", "y", "2*x", "(x)", "x^x", "^2", "2x3", "1.5", "x++1", "a+x", "x/2"};
+            "xx", "x2", "2 x", " x", "x ", "X", "y", "2*x", "(x)", "x^x", "^2", "2x3", "1.5", "x++1", "a+x", "x/2",
+            ":", "1:", "/", "1/", "x^/"};
         for (String text : texts) {
             PartsDesk desk = Check.desk("5x^2+3", "(x-1)");
             Check.write(desk, text);
@@ -130,7 +131,7 @@ public final class ReadingTest {
     }
 
     private static void wrongDenominators() {
-        String[] texts = {"x", "1", "()", "(", "(x", "x)", "(x))", "((x))", "(x+)", "(x-0)", "(x+4)", "(x+11)", "(1+x)",
+        String[] texts = {"x", "1", "()", "(", "(x", "x)", "(x))", "((x))", "(x+)", "(x-0)", "(x+4)", "(x-4)", "(x+11)", "(1+x)",
             "(-x)", "(x)^", "(x)^0", "(x)^4", "(x)^11", "(x)^-1", "(x)*(x)", "(x) (x)", " (x)", "(x) ", "(X)", "(x1)",
             "(x+-1)", "(x^2)", "(2x+1)", "(x)2", "(x)^3(x)^3(", "(x)^3(x)^3(x)^4", "(y)(x)"};
         for (String text : texts) {
