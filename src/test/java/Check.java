@@ -79,6 +79,34 @@ final class Check {
         return text.toString();
     }
 
+    /** All that an object tells of its function, in at most 84 calls; the draft is left alone. */
+    static String told(PartsDesk desk) {
+        StringBuilder text = new StringBuilder(roots(desk));
+        for (int of = 0; of <= 2; of++) {
+            text.append(" | ").append(coefficients(desk, of));
+        }
+        for (int root = -3; root <= 3; root++) {
+            int many = desk.many(root);
+            for (int k = 1; k <= many; k++) {
+                text.append(" | ").append(part(desk, root, k)).append(' ').append(integral(desk, root, k - 1));
+            }
+        }
+        for (int k = 1; k <= 8; k++) {
+            text.append(" | ").append(integral(desk, 9, k));
+        }
+        for (int t : new int[] {-20, -4, 4, 20}) {
+            text.append(" | ").append(value(desk, t));
+        }
+        return text.append(" | ").append(desk.at(0.5)).append(' ').append(desk.byParts(0.5)).toString();
+    }
+
+    /** The call is refused for its arguments, and the function is the same before and after it. */
+    static void refusedAndKept(String what, PartsDesk desk, Supplier<Object> call) {
+        String before = told(desk);
+        refusedArgument(what, call);
+        due("the function after " + what, before, () -> told(desk));
+    }
+
     /** Ends the test: exit code 1 when an answer was wrong. */
     static void end() {
         System.out.println(wrong == 0 ? asked + " answers are as due" : wrong + " of " + asked + " answers are wrong");

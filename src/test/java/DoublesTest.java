@@ -71,16 +71,22 @@ public final class DoublesTest {
         Random random = new Random(4);
         for (String above : ABOVE) {
             for (String below : BELOW) {
-                PartsDesk desk = Check.desk(above, below);
+                // An object answers 512 calls: one tells its numbers, others are asked at 100 places each.
+                Numbers numbers = new Numbers(Check.desk(above, below));
+                PartsDesk desk = null;
                 for (int n = 0; n < 400; n++) {
-                    double x = place(random, n);
-                    String what = above + " / " + below + " at " + x;
-                    Check.due(what, divided(desk, x), () -> desk.at(x));
-                    Check.due(what + " by parts", added(desk, x), () -> desk.byParts(x));
-                    Check.due(what + " is a number", false, () -> Double.isNaN(desk.byParts(x)));
+                    desk = n % 100 == 0 ? Check.desk(above, below) : desk;
+                    onePlace(above + " / " + below, desk, numbers, place(random, n));
                 }
             }
         }
+    }
+
+    private static void onePlace(String function, PartsDesk desk, Numbers numbers, double x) {
+        String what = function + " at " + x;
+        Check.due(what, numbers.divided(x), () -> desk.at(x));
+        Check.due(what + " by parts", numbers.added(x), () -> desk.byParts(x));
+        Check.due(what + " is a number", false, () -> Double.isNaN(desk.byParts(x)));
     }
 
     private static double place(Random random, int n) {
@@ -96,35 +102,51 @@ public final class DoublesTest {
         }
     }
 
-    private static double divided(PartsDesk desk, double x) {
-        double below = horner(desk, 1, x);
-        return below == 0.0 ? 0.0 : horner(desk, 0, x) / below;
-    }
+    /** What an object tells of its function, and the doubles that the document makes of it. */
+    private static final class Numbers {
+        private final long[][] coefficients = new long[3][7];
+        private final int[] often = new int[7];
+        private final double[][] parts = new double[7][6];
 
-    private static double horner(PartsDesk desk, int of, double x) {
-        int degree = 6;
-        while (degree > 0 && desk.coefficient(of, degree) == 0) {
-            degree--;
-        }
-        double value = desk.coefficient(of, degree);
-        for (int i = degree - 1; i >= 0; i--) {
-            value = value * x + desk.coefficient(of, i);
-        }
-        return value;
-    }
-
-    private static double added(PartsDesk desk, double x) {
-        double sum = horner(desk, 2, x);
-        for (int root = -3; root <= 3; root++) {
-            double p = 1.0;
-            for (int k = 1; k <= desk.many(root); k++) {
-                p *= x - root;
-                if (p != 0.0) {
-                    double a = (double) desk.part(root, k, 0) / desk.part(root, k, 1);
-                    sum += a / p;
+        Numbers(PartsDesk desk) {
+            for (int i = 0; i < 7; i++) {
+                for (int of = 0; of <= 2; of++) {
+                    coefficients[of][i] = desk.coefficient(of, i);
+                }
+                often[i] = desk.many(i - 3);
+                for (int k = 1; k <= often[i]; k++) {
+                    parts[i][k] = (double) desk.part(i - 3, k, 0) / desk.part(i - 3, k, 1);
                 }
             }
         }
-        return sum;
+
+        double divided(double x) {
+            double below = horner(1, x);
+            return below == 0.0 ? 0.0 : horner(0, x) / below;
+        }
+
+        double added(double x) {
+            double sum = horner(2, x);
+            for (int i = 0; i < 7; i++) {
+                double p = 1.0;
+                for (int k = 1; k <= often[i]; k++) {
+                    p *= x - (i - 3);
+                    sum = p == 0.0 ? sum : sum + parts[i][k] / p;
+                }
+            }
+            return sum;
+        }
+
+        private double horner(int of, double x) {
+            int degree = 6;
+            while (degree > 0 && coefficients[of][degree] == 0) {
+                degree--;
+            }
+            double value = coefficients[of][degree];
+            for (int i = degree - 1; i >= 0; i--) {
+                value = value * x + coefficients[of][i];
+            }
+            return value;
+        }
     }
 }

@@ -15,6 +15,10 @@ public final class FaceTest {
             "long coefficient(int, int)", "int many(int)", "long part(int, int, int)", "long integral(int, int, int)",
             "long value(int, int)", "double at(double)", "double byParts(double)"));
         Check.due("the face", due, FaceTest::face);
+        for (Method method : PartsDesk.class.getDeclaredMethods()) {
+            boolean isPrivate = Modifier.isPrivate(method.getModifiers());
+            Check.due("private " + method.getName() + " bears no public name", false, () -> isPrivate && isPublicName(method.getName()));
+        }
         for (Field field : PartsDesk.class.getDeclaredFields()) {
             Check.due(field.getName() + " is private", true, () -> Modifier.isPrivate(field.getModifiers()));
             boolean isFree = !Modifier.isStatic(field.getModifiers()) || Modifier.isFinal(field.getModifiers());
@@ -24,6 +28,15 @@ public final class FaceTest {
             Check.due(inside.getName() + " is static", true, () -> Modifier.isStatic(inside.getModifiers()));
         }
         Check.end();
+    }
+
+    private static boolean isPublicName(String name) {
+        for (Method method : PartsDesk.class.getDeclaredMethods()) {
+            if (Modifier.isPublic(method.getModifiers()) && method.getName().equals(name)) {
+                return true;
+            }
+        }
+        return false;
     }
 
     private static Set<String> face() {

@@ -10,38 +10,18 @@ public final class IdentityTest {
         Random random = new Random(3);
         int made = 0;
         int[] often = new int[7];
-        for (int code = 0; code < 279936; code++) {
-            if (spread(code, often)) {
+        for (int code = 0; code < 823543; code++) {
+            int sum = Texts.spread(code, often);
+            if (sum >= 1 && sum <= 5) {
                 made++;
-                addsUp(desk(random, often), often, random.nextInt(41) - 20);
+                PartsDesk desk = Check.desk(numerator(random), Texts.product(often));
+                addsUp(desk, often, random.nextInt(41) - 20);
             }
         }
         int count = made;
         // 7 roots, 1 to 5 of them: 7 + 28 + 84 + 210 + 462.
         Check.due("products tried", 791, () -> count);
         Check.end();
-    }
-
-    /** Reads how often each root comes from the digits of a number to the base 6; false when not 1 .. 5. */
-    private static boolean spread(int code, int[] often) {
-        int left = code;
-        int sum = 0;
-        for (int i = 0; i < 7; i++) {
-            often[i] = left % 6;
-            left /= 6;
-            sum += often[i];
-        }
-        return sum >= 1 && sum <= 5;
-    }
-
-    private static PartsDesk desk(Random random, int[] often) {
-        StringBuilder below = new StringBuilder();
-        for (int i = 6; i >= 0; i--) {
-            String factor = i == 3 ? "(x)" : i < 3 ? "(x+" + (3 - i) + ")" : "(x-" + (i - 3) + ")";
-            below.append(often[i] == 0 ? "" : often[i] == 1 ? factor
-                : often[i] <= 3 ? factor + "^" + often[i] : factor + "^3" + factor + "^" + (often[i] - 3));
-        }
-        return Check.desk(numerator(random), below.toString());
     }
 
     private static String numerator(Random random) {

@@ -20,6 +20,8 @@ public final class ReadingTest {
         tooManyRoots();
         coefficient();
         many();
+        numeratorsOf(new String[] {"x", "^", "+", "-", "0", "6", "7", " ", "("}, 5, "");
+        denominatorsOf(new String[] {"(x)", "(x", "-", "3", "4", ")", "^"}, 6, "");
         randomNumerators();
         randomDenominators();
         Check.end();
@@ -41,21 +43,19 @@ public final class ReadingTest {
     }
 
     private static void write() {
-        PartsDesk desk = new PartsDesk();
         for (int c = 0; c <= Character.MAX_VALUE; c++) {
             if (c < 32 || c > 126) {
+                PartsDesk fresh = new PartsDesk();
                 char wrong = (char) c;
-                Check.due("write of " + c, false, () -> desk.write(wrong));
+                Check.due("write of " + c, false, () -> fresh.write(wrong));
             }
         }
-        Check.write(desk, "7");
-        Check.due("what is not written leaves the draft", 0, desk::numerator);
-        Check.due("written", 7L, () -> desk.coefficient(0, 0));
         for (int c = 32; c <= 126; c++) {
             PartsDesk fresh = new PartsDesk();
             char right = (char) c;
             Check.due("write of " + c, true, () -> fresh.write(right));
         }
+        PartsDesk desk = new PartsDesk();
         Check.write(desk, "x+x+x+x+x+x+x+x+x+x+x+x+x+x+xx");
         Check.due("the 31st", false, () -> desk.write('1'));
         Check.refusedArgument("30 characters with xx at the end", desk::numerator);
@@ -66,30 +66,21 @@ public final class ReadingTest {
     }
 
     private static void numerator() {
-        numeratorIs("0", 0, "0 0 0 0 0 0 0");
-        numeratorIs("-0", 0, "0 0 0 0 0 0 0");
-        numeratorIs("0x^6", 0, "0 0 0 0 0 0 0");
-        numeratorIs("00", 0, "0 0 0 0 0 0 0");
-        numeratorIs("07x", 1, "0 7 0 0 0 0 0");
-        numeratorIs("99", 0, "99 0 0 0 0 0 0");
-        numeratorIs("-99", 0, "-99 0 0 0 0 0 0");
-        numeratorIs("+x", 1, "0 1 0 0 0 0 0");
-        numeratorIs("-x^0", 0, "-1 0 0 0 0 0 0");
-        numeratorIs("3x^0+4", 0, "7 0 0 0 0 0 0");
-        numeratorIs("x^1-12x^2", 2, "0 1 -12 0 0 0 0");
-        numeratorIs("1-x+2x^2-3x^3+4x^4-5x^5+6x^6", 6, "1 -1 2 -3 4 -5 6");
-        numeratorIs("x^6-x^6+x^3", 3, "0 0 0 1 0 0 0");
-        numeratorIs("99x^6+99x^6+99x^6+99x^6+99x^6", 6, "0 0 0 0 0 0 495");
-        numeratorIs("-x+2x-x", 0, "0 0 0 0 0 0 0");
-    }
-
-    private static void numeratorIs(String text, int degree, String coefficients) {
-        PartsDesk desk = new PartsDesk();
-        Check.write(desk, text);
-        Check.due("numerator " + text, degree, desk::numerator);
-        Check.due("coefficients of " + text, coefficients, () -> Check.coefficients(desk, 0));
-        Check.due("the denominator stays", "0 1 0 0 0 0 0", () -> Check.coefficients(desk, 1));
-        Check.refusedArgument("the draft is empty after " + text, desk::numerator);
+        Texts.isPolynomial("0", 0, "0 0 0 0 0 0 0");
+        Texts.isPolynomial("-0", 0, "0 0 0 0 0 0 0");
+        Texts.isPolynomial("0x^6", 0, "0 0 0 0 0 0 0");
+        Texts.isPolynomial("00", 0, "0 0 0 0 0 0 0");
+        Texts.isPolynomial("07x", 1, "0 7 0 0 0 0 0");
+        Texts.isPolynomial("99", 0, "99 0 0 0 0 0 0");
+        Texts.isPolynomial("-99", 0, "-99 0 0 0 0 0 0");
+        Texts.isPolynomial("+x", 1, "0 1 0 0 0 0 0");
+        Texts.isPolynomial("-x^0", 0, "-1 0 0 0 0 0 0");
+        Texts.isPolynomial("3x^0+4", 0, "7 0 0 0 0 0 0");
+        Texts.isPolynomial("x^1-12x^2", 2, "0 1 -12 0 0 0 0");
+        Texts.isPolynomial("1-x+2x^2-3x^3+4x^4-5x^5+6x^6", 6, "1 -1 2 -3 4 -5 6");
+        Texts.isPolynomial("x^6-x^6+x^3", 3, "0 0 0 1 0 0 0");
+        Texts.isPolynomial("99x^6+99x^6+99x^6+99x^6+99x^6", 6, "0 0 0 0 0 0 495");
+        Texts.isPolynomial("-x+2x-x", 0, "0 0 0 0 0 0 0");
     }
 
     private static void wrongNumerators() {
@@ -97,37 +88,21 @@ public final class ReadingTest {
             "xx", "x2", "2 x", " x", "x ", "X", "y", "2*x", "(x)", "x^x", "^2", "2x3", "1.5", "x++1", "a+x", "x/2",
             ":", "1:", "/", "1/", "x^/"};
         for (String text : texts) {
-            PartsDesk desk = Check.desk("5x^2+3", "(x-1)");
-            Check.write(desk, text);
-            Check.refusedArgument("numerator " + text, desk::numerator);
-            Check.due("kept after " + text, "3 0 5 0 0 0 0", () -> Check.coefficients(desk, 0));
-            Check.due("parts kept after " + text, "8/1", () -> Check.part(desk, 1, 1));
-            Check.write(desk, "4x");
-            Check.due("the draft is empty after " + text, 1, desk::numerator);
+            Texts.isNoPolynomial(text);
         }
     }
 
     private static void denominator() {
-        denominatorIs("(x)", 1, "0 1 0 0 0 0 0", "0001000");
-        denominatorIs("(x)^1", 1, "0 1 0 0 0 0 0", "0001000");
-        denominatorIs("(x+3)", 1, "3 1 0 0 0 0 0", "1000000");
-        denominatorIs("(x-3)", 1, "-3 1 0 0 0 0 0", "0000001");
-        denominatorIs("(x-2)^3", 3, "-8 12 -6 1 0 0 0", "0000030");
-        denominatorIs("(x+1)(x-1)", 2, "-1 0 1 0 0 0 0", "0010100");
-        denominatorIs("(x+2)(x)(x+2)", 3, "0 4 4 1 0 0 0", "0201000");
-        denominatorIs("(x)^3(x)^2", 5, "0 0 0 0 0 1 0", "0005000");
-        denominatorIs("(x-1)(x-1)(x-1)(x-1)(x-1)", 5, "-1 5 -10 10 -5 1 0", "0000500");
-        denominatorIs("(x+3)^2(x-3)^3", 5, "-243 81 54 -18 -3 1 0", "2000003");
-    }
-
-    private static void denominatorIs(String text, int degree, String coefficients, String roots) {
-        PartsDesk desk = new PartsDesk();
-        Check.write(desk, text);
-        Check.due("denominator " + text, degree, desk::denominator);
-        Check.due("coefficients of " + text, coefficients, () -> Check.coefficients(desk, 1));
-        Check.due("roots of " + text, roots, () -> Check.roots(desk));
-        Check.due("the numerator stays", "0 0 0 0 0 0 0", () -> Check.coefficients(desk, 0));
-        Check.refusedArgument("the draft is empty after " + text, desk::denominator);
+        Texts.isProduct("(x)", 1, "0 1 0 0 0 0 0", "0001000");
+        Texts.isProduct("(x)^1", 1, "0 1 0 0 0 0 0", "0001000");
+        Texts.isProduct("(x+3)", 1, "3 1 0 0 0 0 0", "1000000");
+        Texts.isProduct("(x-3)", 1, "-3 1 0 0 0 0 0", "0000001");
+        Texts.isProduct("(x-2)^3", 3, "-8 12 -6 1 0 0 0", "0000030");
+        Texts.isProduct("(x+1)(x-1)", 2, "-1 0 1 0 0 0 0", "0010100");
+        Texts.isProduct("(x+2)(x)(x+2)", 3, "0 4 4 1 0 0 0", "0201000");
+        Texts.isProduct("(x)^3(x)^2", 5, "0 0 0 0 0 1 0", "0005000");
+        Texts.isProduct("(x-1)(x-1)(x-1)(x-1)(x-1)", 5, "-1 5 -10 10 -5 1 0", "0000500");
+        Texts.isProduct("(x+3)^2(x-3)^3", 5, "-243 81 54 -18 -3 1 0", "2000003");
     }
 
     private static void wrongDenominators() {
@@ -135,29 +110,15 @@ public final class ReadingTest {
             "(-x)", "(x)^", "(x)^0", "(x)^4", "(x)^11", "(x)^-1", "(x)*(x)", "(x) (x)", " (x)", "(x) ", "(X)", "(x1)",
             "(x+-1)", "(x^2)", "(2x+1)", "(x)2", "(x)^3(x)^3(", "(x)^3(x)^3(x)^4", "(y)(x)"};
         for (String text : texts) {
-            PartsDesk desk = Check.desk("5x^2+3", "(x-1)");
-            Check.write(desk, text);
-            Check.refusedArgument("denominator " + text, desk::denominator);
-            isKept(desk, text);
+            Texts.isNoProduct(text);
         }
     }
 
     private static void tooManyRoots() {
         String[] texts = {"(x)^3(x)^3", "(x+1)^2(x-1)^2(x)^2", "(x)(x)(x)(x)(x)(x)", "(x)^3(x)^3(x)^3(x)^3(x)^3(x)^3"};
         for (String text : texts) {
-            PartsDesk desk = Check.desk("5x^2+3", "(x-1)");
-            Check.write(desk, text);
-            Check.refusedState("denominator " + text, desk::denominator);
-            isKept(desk, text);
+            Texts.hasTooManyRoots(text);
         }
-    }
-
-    private static void isKept(PartsDesk desk, String text) {
-        Check.due("kept after " + text, "-1 1 0 0 0 0 0", () -> Check.coefficients(desk, 1));
-        Check.due("roots kept after " + text, "0000100", () -> Check.roots(desk));
-        Check.due("parts kept after " + text, "8/1", () -> Check.part(desk, 1, 1));
-        Check.write(desk, "(x-2)^2");
-        Check.due("the draft is empty after " + text, 2, desk::denominator);
     }
 
     private static void coefficient() {
@@ -185,18 +146,36 @@ public final class ReadingTest {
         }
     }
 
+    /** Every text of at most so many pieces. */
+    private static void numeratorsOf(String[] pieces, int most, String soFar) {
+        numeratorAsThePatternSays(soFar);
+        for (int i = 0; most > 0 && i < pieces.length; i++) {
+            numeratorsOf(pieces, most - 1, soFar + pieces[i]);
+        }
+    }
+
+    private static void denominatorsOf(String[] pieces, int most, String soFar) {
+        denominatorAsThePatternSays(soFar);
+        for (int i = 0; most > 0 && i < pieces.length; i++) {
+            denominatorsOf(pieces, most - 1, soFar + pieces[i]);
+        }
+    }
+
     private static void randomNumerators() {
         Random random = new Random(1);
         for (int n = 0; n < 20000; n++) {
-            String text = randomText(random, "xx^^+-+-0123456789 (", 12);
-            PartsDesk desk = new PartsDesk();
-            Check.write(desk, text);
-            boolean isRight = POLYNOMIAL.matcher(text).matches();
-            Object due = isRight ? degree(terms(text)) : "throws.IllegalArgumentException";
-            Check.due("numerator " + text, due, desk::numerator);
-            String coefficients = isRight ? joined(terms(text)) : "0 0 0 0 0 0 0";
-            Check.due("coefficients of " + text, coefficients, () -> Check.coefficients(desk, 0));
+            numeratorAsThePatternSays(randomText(random, "xx^^+-+-0123456789 (", 12));
         }
+    }
+
+    private static void numeratorAsThePatternSays(String text) {
+        PartsDesk desk = new PartsDesk();
+        Check.write(desk, text);
+        boolean isRight = POLYNOMIAL.matcher(text).matches();
+        Object due = isRight ? degree(terms(text)) : "throws.IllegalArgumentException";
+        Check.due("numerator " + text, due, desk::numerator);
+        String coefficients = isRight ? joined(terms(text)) : "0 0 0 0 0 0 0";
+        Check.due("coefficients of " + text, coefficients, () -> Check.coefficients(desk, 0));
     }
 
     private static void randomDenominators() {
@@ -208,18 +187,21 @@ public final class ReadingTest {
             for (int i = 0; i < count; i++) {
                 made.append(pieces[random.nextInt(random.nextInt(4) == 0 ? pieces.length : 7)]);
             }
-            String text = made.toString();
-            int[] often = roots(text);
-            int degree = often[7];
-            PartsDesk desk = new PartsDesk();
-            Check.write(desk, text);
-            boolean isRight = PRODUCT.matcher(text).matches();
-            Object due = !isRight ? "throws.IllegalArgumentException"
-                : degree > 5 ? "throws.IllegalStateException" : (Object) degree;
-            Check.due("denominator " + text, due, desk::denominator);
-            String roots = isRight && degree <= 5 ? joined(often).substring(0, 13).replace(" ", "") : "0001000";
-            Check.due("roots of " + text, roots, () -> Check.roots(desk));
+            denominatorAsThePatternSays(made.toString());
         }
+    }
+
+    private static void denominatorAsThePatternSays(String text) {
+        int[] often = roots(text);
+        int degree = often[7];
+        PartsDesk desk = new PartsDesk();
+        Check.write(desk, text);
+        boolean isRight = PRODUCT.matcher(text).matches();
+        Object due = !isRight ? "throws.IllegalArgumentException"
+            : degree > 5 ? "throws.IllegalStateException" : (Object) degree;
+        Check.due("denominator " + text, due, desk::denominator);
+        String roots = isRight && degree <= 5 ? joined(often).substring(0, 13).replace(" ", "") : "0001000";
+        Check.due("roots of " + text, roots, () -> Check.roots(desk));
     }
 
     private static String randomText(Random random, String characters, int most) {
