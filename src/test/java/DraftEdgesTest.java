@@ -2,7 +2,7 @@ import java.util.function.Supplier;
 
 /** Promises 1 to 4, sentence by sentence: the empty and the full draft, and what a refused call leaves. */
 public final class DraftEdgesTest {
-    /** 30 characters that say -15 x, each time one less when one sign is another. */
+    /** The most that a draft holds: 30 characters, which say -15 x. */
     private static final String FULL = "-x-x-x-x-x-x-x-x-x-x-x-x-x-x-x";
 
     public static void main(String[] args) {
