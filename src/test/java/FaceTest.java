@@ -11,9 +11,11 @@ public final class FaceTest {
         int modifiers = PartsDesk.class.getModifiers();
         Check.due("public", true, () -> Modifier.isPublic(modifiers));
         Check.due("final", true, () -> Modifier.isFinal(modifiers));
-        Set<String> due = new TreeSet<>(Set.of("PartsDesk()", "boolean write(char)", "int numerator()", "int denominator()",
-            "long coefficient(int, int)", "int many(int)", "long part(int, int, int)", "long integral(int, int, int)",
-            "long value(int, int)", "double at(double)", "double byParts(double)"));
+        String refusing = " throws java.lang.IllegalArgumentException";
+        Set<String> due = new TreeSet<>(Set.of("PartsDesk()", "boolean write(char)", "int numerator()" + refusing,
+            "int denominator()" + refusing + ", java.lang.IllegalStateException", "long coefficient(int, int)", "int many(int)",
+            "long part(int, int, int)" + refusing, "long integral(int, int, int)" + refusing, "long value(int, int)" + refusing,
+            "double at(double)" + refusing, "double byParts(double)" + refusing));
         Check.due("the face", due, FaceTest::face);
         for (Method method : PartsDesk.class.getDeclaredMethods()) {
             boolean isPrivate = Modifier.isPrivate(method.getModifiers());
@@ -43,21 +45,26 @@ public final class FaceTest {
         Set<String> face = new TreeSet<>();
         for (Constructor<?> constructor : PartsDesk.class.getDeclaredConstructors()) {
             if (!Modifier.isPrivate(constructor.getModifiers())) {
-                face.add("PartsDesk(" + parameters(constructor.getParameterTypes()) + ")");
+                face.add("PartsDesk(" + names(constructor.getParameterTypes()) + ")" + thrown(constructor.getExceptionTypes()));
             }
         }
         for (Method method : PartsDesk.class.getDeclaredMethods()) {
             if (!Modifier.isPrivate(method.getModifiers())) {
-                face.add(method.getReturnType() + " " + method.getName() + "(" + parameters(method.getParameterTypes()) + ")");
+                face.add(method.getReturnType() + " " + method.getName() + "(" + names(method.getParameterTypes()) + ")"
+                    + thrown(method.getExceptionTypes()));
             }
         }
         return face;
     }
 
-    private static String parameters(Class<?>[] types) {
+    private static String thrown(Class<?>[] types) {
+        return types.length == 0 ? "" : " throws " + names(types);
+    }
+
+    private static String names(Class<?>[] types) {
         StringBuilder text = new StringBuilder();
         for (Class<?> type : types) {
-            text.append(text.length() == 0 ? "" : ", ").append(type);
+            text.append(text.length() == 0 ? "" : ", ").append(type.getName());
         }
         return text.toString();
     }
